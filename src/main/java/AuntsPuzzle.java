@@ -833,9 +833,10 @@ public final class AuntsPuzzle {
         private int readInto(Game game) {
             place = 0;
             isBroken = false;
-            do {
+            passStatement();
+            for (int i = 0; i < MOST_BYTES && !isBroken && place < length; i++) {
                 passStatement();
-            } while (!isBroken && place < length);
+            }
             return isBroken ? BAD_BYTE - place : obeyAll(game);
         }
 

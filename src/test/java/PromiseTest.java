@@ -370,7 +370,7 @@ public final class PromiseTest {
         due(16, "RIM FIRST leaves the inner one out", x.done(1, 0), 2 * (6 * 4) + seemingThere + 7 * 2);
         due(16, "FORMS: 1, 3 and 4 have two nubs as 0 has", x.done(3, 0), 21 + 2 * (2 * 4) + 7 * 2);
         due(16, "MARKS: all those fail in other sides", x.done(4, 0), 21 + 2 * (2 * 4) + 7 * 2);
-        due(18, "best by colours", x.bestRule(0), 3);
+        due(18, "best by forms, ahead of marks that take as long", x.bestRule(0), 3);
         due(16, "done(5, 9)", x.done(5, 9), -2);
         due(16, "done(-1, 0)", x.done(-1, 0), -2);
         due(16, "done(0, 5)", x.done(0, 5), -1);
@@ -443,6 +443,8 @@ public final class PromiseTest {
         AuntsPuzzle w = of("z22;c1,1;c2,2;c3,3;pf1;pf9;");
         due(19, "the slower one", w.table(2, 2), 18 + 8);
         due(20, "alone is faster", w.line(2), 1);
+        AuntsPuzzle v = of("z22;c1,1;c2,2;c3,3;pf9;pf1;");
+        due(20, "two are faster, for it is dealt round", v.line(2), 2);
         due(19, "RIM FIRST deals the rim round first", of("c4,1;pe9;pe1;").table(1, 1), 8 * 5 + 18);
     }
 
@@ -486,6 +488,8 @@ public final class PromiseTest {
         AuntsPuzzle z = of("pf1;");
         z.tryIt(0, 4, 2, 4);
         due(23, "its own, turned", z.falseOne(), 4);
+        z.tryIt(0, 2, 3, 0);
+        due(23, "cell 0 ahead of it", z.falseOne(), 0);
         due(22, "its own, turned", z.wrong(), 9);
     }
 
@@ -523,6 +527,11 @@ public final class PromiseTest {
         y.pocket(1);
         due(25, "two nubs and a hole", y.balance(1), -1);
         due(27, "1 or 3", y.which(), 2 + 8);
+        AuntsPuzzle z = of("e4r+9;e3r-9;");
+        z.pocket(4);
+        due(25, "two nubs of 9, and no flat side", z.balance(9), -2);
+        due(26, "lack all the same", z.lacks(), 1);
+        due(27, "it is 4", z.which(), 16);
     }
 
     private static void shares() {
