@@ -34,6 +34,7 @@ public final class AuntsPuzzle {
     private final Game now = new Game();
     private final Game draft = new Game();
     private final Game kept = new Game();
+    private final Board inMind = new Board();
     private final Tape tape = new Tape();
     private final Told told = new Told();
     private final Search search = new Search();
@@ -126,7 +127,9 @@ public final class AuntsPuzzle {
         if (!isTurn(turn)) {
             return refuse(OTHER);
         }
-        return now.cut.isFit(now.board, piece, turn, cell) ? 1 : 0;
+        inMind.copyFrom(now.board);
+        inMind.takeAway(piece);
+        return now.cut.isFit(inMind, piece, turn, cell) ? 1 : 0;
     }
 
     public int seconds(int person, int piece, int turn, int cell) {
@@ -561,11 +564,11 @@ public final class AuntsPuzzle {
             return true;
         }
 
-        /** A piece in hand can't lie beside itself, so where it lies now does not count. */
+        /** All that lies counts as it lies, the same piece too; who wants that left out takes it away first. */
         private boolean suitsNeighbours(Board board, int piece, int turn, int cell) {
             for (int place = 0; place < SIDES; place++) {
                 int other = beside(cell, place);
-                if (other == RIM || !board.isFilled(other) || board.pieces[other] == piece) {
+                if (other == RIM || !board.isFilled(other)) {
                     continue;
                 }
                 int facing = sideOf(board.pieces[other], board.turns[other], (place + 2) % SIDES);
@@ -660,6 +663,14 @@ public final class AuntsPuzzle {
                 pieces[cell] = EMPTY;
             }
             return piece;
+        }
+
+        private void takeAway(int piece) {
+            for (int cell = 0; cell < MOST_CELLS; cell++) {
+                if (pieces[cell] == piece) {
+                    takeUp(cell);
+                }
+            }
         }
 
         private int laidBy(int person) {

@@ -570,7 +570,7 @@ final class Telling {
                 return 0;
             }
             int[] there = board.get(other);
-            if (there != null && there[0] != piece && turned(there[0], there[1])[(s + 2) % 4] != -sides[s]) {
+            if (there != null && turned(there[0], there[1])[(s + 2) % 4] != -sides[s]) {
                 well = 1;
             }
         }
@@ -584,7 +584,9 @@ final class Telling {
         if (outside(turn, 4)) {
             return refuse(-2);
         }
-        return howWell(laid, piece, turn, cell) / 2;
+        Map<Integer, int[]> others = new TreeMap<>(laid);
+        others.values().removeIf(one -> one[0] == piece);
+        return howWell(others, piece, turn, cell) / 2;
     }
 
     private int kind(Map<Integer, int[]> board, int piece, int turn, int cell) {
