@@ -9,6 +9,7 @@ public final class AskBoundaryTest extends Sentences {
     private static void seemingPairs() {
         says("pairs of sides of two PIECES (not LOST) that are 0 in sum, not both flat, and not of an EDGE of both.");
         due("all classes apart", of(APART).seems(), 0);
+        due("twelve nubs by twelve holes, less fourteen in one piece, less twelve edges", new AuntsPuzzle().seems(), 144 - 14 - 12);
         AuntsPuzzle x = of("z22;pf1;");
         due("four nubs by four holes, less two in one piece, less four edges", x.seems(), 16 - 2 - 4);
         layAll(x);
@@ -87,6 +88,10 @@ public final class AskBoundaryTest extends Sentences {
         due("a lost one is not over", x.over(), 3);
         lose(x, 3);
         due("none is left", x.over(), -9);
+        AuntsPuzzle least = of(APART + "pf1;");
+        due("3 in cell 1", least.tryIt(0, 3, 3, 1), 2);
+        due("2 in cell 2", least.tryIt(0, 2, 0, 2), 1);
+        due("0 and 1 fit neither cell 0 nor 3", least.over(), 0);
         AuntsPuzzle full = of("pf1;");
         layAll(full);
         due("a full board", full.over(), -9);
@@ -182,6 +187,9 @@ public final class AskBoundaryTest extends Sentences {
         due("a laid one, too", x.which(), 8 + 4096);
         lose(x, 0);
         due("two are lost: no one alone", x.which(), 0);
+        AuntsPuzzle y = of("z22;e0r+9;e0d+1;e1d+1;e2r+2;");
+        lose(y, 0);
+        due("1 is as 0, but for the greatest class", y.which(), 1);
     }
 
     private static void noSuspects() {
@@ -568,12 +576,14 @@ public final class AskBoundaryTest extends Sentences {
         x.tryIt(1, 7, 0, 7);
         x.tryIt(0, 0, 2, 0);
         lose(x, 3, 4);
+        int tried = x.ways(1);
         x.image();
         x.find(4);
         x.lift(7);
         x.tryIt(0, 7, 0, 7);
         x.tryIt(0, 4, 0, 4);
         due("another puzzle", read(x, "pf3;z44;e14r+8;c7,1;"), 4);
+        due("which has other ways", x.ways(1), 20001);
         due("on()", x.on(), 1);
         due("rows", x.count(0), 2);
         due("columns", x.count(1), 4);
@@ -590,7 +600,8 @@ public final class AskBoundaryTest extends Sentences {
         due("DID", x.person(1, 2), 1);
         due("SECONDS of 0", x.person(0, 3), 1);
         due("SECONDS of 1", x.person(1, 3), 2);
-        due("ways as then", x.ways(1) > 0 ? x.first(7, 0) : -1, 7);
+        due("its ways", x.ways(1), tried);
+        due("the first of them", x.first(7, 0), 7);
     }
 
     private static void counts() {
@@ -631,6 +642,18 @@ public final class AskBoundaryTest extends Sentences {
         due("a full tape", x.count(8), 64);
     }
 
+    private static void manyCalls() {
+        says("An object is used for at most 512 calls after it has been made");
+        AuntsPuzzle x = new AuntsPuzzle();
+        due("the first: \"pf9;\"", x.feed(4, 0x3B396670L), 4);
+        due("the second", x.puzzle(), 1);
+        for (int call = 3; call <= 510; call++) {
+            due("call " + call, x.row(99), call < 19 ? call - 2 : -6);
+        }
+        due("the 511th", x.count(16), 492);
+        due("the 512th", x.done(4, 0), 27 + 81);
+    }
+
     public static void main(String[] args) {
         seemingPairs();
         wrongCells();
@@ -661,6 +684,7 @@ public final class AskBoundaryTest extends Sentences {
         allIsAsThen();
         counts();
         innerEdges();
+        manyCalls();
         end();
     }
 }

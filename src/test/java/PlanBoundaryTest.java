@@ -16,7 +16,9 @@ public final class PlanBoundaryTest extends Sentences {
         AuntsPuzzle y = of(APART + "pf1;");
         layAll(y);
         due("a full board", y.ways(0), 4);
-        due("behind another cut", read(y, ROUND) * 100 + y.ways(0), 324);
+        due("another cut", read(y, ROUND), 3);
+        due("ways of another cut", y.ways(0), 24);
+        due("tried of another cut", y.ways(1), 16 + 4 * (12 + 3 * (8 + 2 * 4)));
     }
 
     private static void howManyTried() {
@@ -65,6 +67,7 @@ public final class PlanBoundaryTest extends Sentences {
             due("below the least what", x.first(0, -1), -2);
             due("above the greatest what", x.first(0, 2), -2);
         }
+        due("the only one that is found ahead of the end", of("z44;e6r+3;e8r+2;e13r+3;e2d+2;e8d+1;e5r-1;").first(15, 0), 15);
     }
 
     private static void rules() {
@@ -216,6 +219,9 @@ public final class PlanBoundaryTest extends Sentences {
         lose(x, 0);
         due("FORMS: 12 in cell 0, of which three seem to fit", x.done(3, 0), 9 + 12 + 3 + 3);
         due("MARKS: 1 fails thrice there, 2 and 3 only seem to fit; elsewhere it does not count", x.done(4, 0), 9 + 5 + 2 + 2 + 3);
+        AuntsPuzzle apart = of("z22;e0r+1;e0d-2;e1d+3;e2r-4;pf1;");
+        lose(apart, 0);
+        due("MARKS: alike but for the classes is not alike", apart.done(4, 0), 9 + 12 + 3 + 3);
         // 0 and 1 are alike but for a turn; 3 in cell 0 makes both meet it falsely in cell 1.
         AuntsPuzzle y = of("z22;e0r+1;e0d-1;e1d+1;e2r+2;pf1;");
         due("3 in cell 0", y.tryIt(0, 3, 2, 0), 2);
@@ -322,6 +328,8 @@ public final class PlanBoundaryTest extends Sentences {
         due("one cell each, but for two who have none", y.line(2), 4);
         AuntsPuzzle z = of(PAINTED + "pf9;pf9;pf9;");
         due("all there are", z.line(2), 3);
+        due("two of two", of("z22;c1,1;c2,2;c3,3;pf9;pf1;").line(2), 2);
+        due("one of two", of("z22;c1,1;c2,2;c3,3;pf1;pf9;").line(2), 1);
     }
 
     private static void tooMany() {

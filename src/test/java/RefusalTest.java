@@ -283,21 +283,45 @@ public final class RefusalTest extends Sentences {
         refused("mine(-1, 0)", RefusalTest::begun, x -> x.mine(-1, 0), NOBODY);
         refused("mine(2, 0)", RefusalTest::begun, x -> x.mine(2, 0), NOBODY);
         for (int rule : new int[] {-1, 5, LEAST, MOST}) {
-            refused("done(" + rule + ", 0)", RefusalTest::begun, x -> x.done(rule, 0), OTHER);
-            refused("done(" + rule + ", 2)", RefusalTest::begun, x -> x.done(rule, 2), OTHER);
-            refused("half(" + rule + ", 0)", RefusalTest::begun, x -> x.half(rule, 0), OTHER);
-            refused("half(" + rule + ", -1)", RefusalTest::begun, x -> x.half(rule, -1), OTHER);
             refused("table(" + rule + ", 1)", RefusalTest::begun, x -> x.table(rule, 1), OTHER);
             refused("table(" + rule + ", 0)", RefusalTest::begun, x -> x.table(rule, 0), OTHER);
             refused("table(" + rule + ", 3)", RefusalTest::begun, x -> x.table(rule, 3), OTHER);
             refused("line(" + rule + ")", RefusalTest::begun, x -> x.line(rule), OTHER);
             refused("line(" + rule + "), nobody", RefusalTest::fresh, x -> x.line(rule), OTHER);
         }
+    }
+
+    private static void done() {
+        says("DONE: SECONDS. -2; -1.");
+        for (int wild : new int[] {-1, 5, LEAST, MOST}) {
+            refused("done(" + wild + ", 0)", RefusalTest::begun, x -> x.done(wild, 0), OTHER);
+            refused("done(" + wild + ", 2)", RefusalTest::begun, x -> x.done(wild, 2), OTHER);
+            refused("done(" + wild + ", 0), nobody", RefusalTest::fresh, x -> x.done(wild, 0), OTHER);
+            refused("done(0, " + wild + ")", RefusalTest::begun, x -> x.done(0, wild), NOBODY);
+        }
+        refused("done(4, 2)", RefusalTest::begun, x -> x.done(4, 2), NOBODY);
+        refused("done(4, 6)", RefusalTest::full, x -> x.done(4, 6), NOBODY);
+        refused("done(0, 0), nobody", RefusalTest::fresh, x -> x.done(0, 0), NOBODY);
+    }
+
+    private static void half() {
+        says("HALF. -2; -1.");
+        for (int wild : new int[] {-1, 5, LEAST, MOST}) {
+            refused("half(" + wild + ", 0)", RefusalTest::begun, x -> x.half(wild, 0), OTHER);
+            refused("half(" + wild + ", -1)", RefusalTest::begun, x -> x.half(wild, -1), OTHER);
+            refused("half(" + wild + ", 0), nobody", RefusalTest::fresh, x -> x.half(wild, 0), OTHER);
+            refused("half(4, " + wild + ")", RefusalTest::begun, x -> x.half(4, wild), NOBODY);
+        }
+        refused("half(0, 2)", RefusalTest::begun, x -> x.half(0, 2), NOBODY);
+        refused("half(0, 0), nobody", RefusalTest::fresh, x -> x.half(0, 0), NOBODY);
+    }
+
+    private static void bestRule() {
+        says("BEST RULE. -1.");
         for (int person : new int[] {-1, 2, LEAST, MOST}) {
-            refused("done(0, " + person + ")", RefusalTest::begun, x -> x.done(0, person), NOBODY);
-            refused("half(4, " + person + ")", RefusalTest::begun, x -> x.half(4, person), NOBODY);
             refused("bestRule(" + person + ")", RefusalTest::begun, x -> x.bestRule(person), NOBODY);
         }
+        refused("bestRule(6)", RefusalTest::full, x -> x.bestRule(6), NOBODY);
         refused("bestRule(0), nobody", RefusalTest::fresh, x -> x.bestRule(0), NOBODY);
     }
 
@@ -407,6 +431,9 @@ public final class RefusalTest extends Sentences {
         tries();
         liftPocketFind();
         waysAndRules();
+        done();
+        half();
+        bestRule();
         tooFew();
         tooMany();
         farOnes();
