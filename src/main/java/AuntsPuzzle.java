@@ -1113,7 +1113,7 @@ public final class AuntsPuzzle {
         private int share(Game game, int person, int from, int step, int end) {
             int spent = 0;
             mind.board.copyFrom(game.board);
-            for (int i = from; i < end; i += step) {
+            for (int i = from; i < end; i += Math.max(1, step)) {
                 spent += fillCell(person, order[i]);
             }
             return spent;

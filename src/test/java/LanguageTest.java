@@ -103,10 +103,24 @@ public final class LanguageTest {
         }
     }
 
+    /** A counter that goes up by one, or by a step that is seen to be one at least. */
+    private static void lookAtLoops(String source) {
+        Matcher loop = Pattern.compile("\\bfor \\(([^;\n]*);([^;\n]*);([^;\n]*)\\) \\{\n").matcher(source);
+        int loops = 0;
+        while (loop.find()) {
+            loops++;
+            boolean goesUp = loop.group(3).trim().matches("\\w+\\+\\+|\\w+ \\+= Math\\.max\\(1, \\w+\\)");
+            must(goesUp && loop.group(2).contains("<"), "a loop whose own lines do not show its end: " + loop.group().trim());
+        }
+        must(loops == source.split("\\bfor \\(").length - 1, "a loop of another form");
+    }
+
     public static void main(String[] args) throws IOException {
+        String source = Files.readString(Path.of("src/main/java/AuntsPuzzle.java"), StandardCharsets.ISO_8859_1);
         lookAtFace();
         lookAtClasses();
-        lookAtWords(Files.readString(Path.of("src/main/java/AuntsPuzzle.java"), StandardCharsets.ISO_8859_1));
+        lookAtWords(source);
+        lookAtLoops(source);
         System.out.println(wrong == 0 ? "the program keeps to the language" : wrong + " places do not keep to the language");
         if (wrong != 0) {
             System.exit(1);

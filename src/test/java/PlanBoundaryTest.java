@@ -227,6 +227,19 @@ public final class PlanBoundaryTest extends Sentences {
         due("3 in cell 0", y.tryIt(0, 3, 2, 0), 2);
         due("FORMS: 0 in four turns and 1 in cell 1, then 2", y.done(3, 0), 9 + 4 + 1 + 1);
         due("MARKS: 1 is not tried there, though it is the cell's own", y.done(4, 0), 9 + 4 + 1);
+        for (int weight = 2; weight <= 18; weight++) {
+            marksOfSidesWeighed(weight);
+        }
+    }
+
+    /** Piece 1 begins with 0 and nub, piece 4 with 1 and -hole: with each side weight times the next one they'd look alike. */
+    private static void marksOfSidesWeighed(int weight) {
+        int nub = Math.min(9, weight - 1);
+        int hole = weight - nub;
+        AuntsPuzzle x = of("e1r+" + nub + ";e4r-" + hole + ";e0d-1;e1d-1;e4d-1;pf1;");
+        lay(x, 2, 3, 5, 6, 7, 8);
+        lose(x, 0);
+        due("1 and 4 in four turns each fail in cell 0, " + weight, x.half(4, 0), 6 + 8);
     }
 
     private static void halves() {
